@@ -657,7 +657,6 @@ public final class BellHammer {
         static final int AT = 1;
         static final int TRIER = 2;
         static final int FORCE = 3;
-        static final int COINS = 6;
         static final int LADY = 8;
         static final int LEAN = 9;
         static final int WHEN = 10;

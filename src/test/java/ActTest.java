@@ -7,6 +7,7 @@ public final class ActTest {
     public static void main(String[] args) {
         nightByHand();
         nightGoesOn();
+        nightFacts();
         nightsAtMost();
         rules();
         sets();
@@ -67,6 +68,21 @@ public final class ActTest {
         x.set(2, 3);
         Check.due("night too dear", x.night(), 0);
         Check.due("nights", x.has(10), 5);
+    }
+
+    /** What a test asks for ahead of each of three blows; tight they are 50 (near), 49, 48. */
+    private static void nightFacts() {
+        String one = "trier a force 50 aim 0 tires 1 coins 7 stays 99; bell 60; near 10; tries 4; slack 10; comes 0 2 1; crowd 3; price 2; lean when ";
+        String[] tests = {"last=0", "last=50", "last=49", "tried=0", "tried=3", "coins=7", "coins=5", "coins=1", "crowd=3", "crowd=5",
+            "crowd=6", "rings=0", "lady=1"};
+        String[] slack = {"100", "010", "001", "100", "000", "100", "010", "000", "100", "010", "001", "111", "000"};
+        for (int i = 0; i < tests.length; i++) {
+            BellHammer x = Check.at(one + tests[i] + ";");
+            Check.due("three blows", x.night(), 6);
+            for (int k = 0; k < 3; k++) {
+                Check.due(tests[i] + " at blow " + k, x.kept(k, 3), slack[i].charAt(k) - '0');
+            }
+        }
     }
 
     private static void nightsAtMost() {

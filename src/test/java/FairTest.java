@@ -78,6 +78,11 @@ public final class FairTest {
         BellHammer x = Check.at("comes 9 9 9; comes 7 5 2; near 4; bell 50; tries 1; crowd 10;"
             + "trier a force 50 aim 0 tires 0 coins 9 stays 0; trier b force 46 aim 0 tires 0 coins 9 stays 0;"
             + "trier c force 45 aim 0 tires 0 coins 9 stays 0;");
+        BellHammer untold = Check.at("tries 1; trier a force 50 aim 0 tires 0 coins 9 stays 0;"
+            + "trier b force 47 aim 0 tires 0 coins 9 stays 0; trier c force 46 aim 0 tires 0 coins 9 stays 0;");
+        Check.due("crowd behind a ring, untold", untold.tree(0, 5), 3000);
+        Check.due("crowd behind a near miss, untold", untold.tree(1, 5), 1000);
+        Check.due("crowd behind a miss, untold", untold.tree(2, 5), 0);
         Check.due("crowd behind a ring", x.tree(0, 5), 17000);
         Check.due("crowd behind a near miss", x.tree(1, 5), 15000);
         Check.due("crowd behind a miss", x.tree(2, 5), 12000);

@@ -104,6 +104,10 @@ public final class SeenTest {
         Check.due("halves", y.strong(0), 2);
         Check.due("the least", y.strong(1), 16);
         Check.due("the greatest", y.strong(2), 17);
+        seen(y, 0, 0);
+        // 1 slack is 0
+        Check.due("the weakest", y.strong(1), 1);
+        Check.due("the weakest alone", y.strong(0), 1);
         Check.due("trier as told", y.trier(0, 0), 9);
         Check.due("blow as told", y.high(0, 0, 0, false), 9);
     }
@@ -120,6 +124,10 @@ public final class SeenTest {
         Check.due("second slack, lower", x.next(true), 333);
         seen(x, 0, 48, 48);
         Check.due("third tight", x.next(false), 333);
+        BellHammer y = Check.at("trier a force 60 aim 0 tires 10 coins 0 stays 0; bell 50; slack 10;");
+        seen(y, 0, 50);
+        Check.due("for sure", y.next(false), 1000);
+        Check.due("surely not", y.next(true), 0);
         seen(x, 0, 48, 48, 48);
         Check.due("as many as tries", x.next(false), -1);
         seen(x, 0, 48, 48, 48, 48);
@@ -138,6 +146,9 @@ public final class SeenTest {
         Check.due("no slack", x.clear(0), -1);
         x.set(1, 90);
         Check.due("6 is both", x.clear(0), 8);
+        x.set(0, 1);
+        Check.due("all ring", x.clear(0), -1);
+        x.undo();
         // 99 slack is 9, and 99 nine off is 9
         Check.due("9 is both", x.clear(1), 8);
         x.set(1, 50);

@@ -14,6 +14,7 @@ public final class TextTest {
         sideBySide();
         rightTexts();
         faultOfTheLatest();
+        longRulesAnew();
         Check.close();
     }
 
@@ -287,6 +288,26 @@ public final class TextTest {
         right("comes 9 9 9;comes 0 0 0;slack 0;slack 90;near 0;near 20;crowd 0;crowd 99;price 9;tries 4;", 10);
         right("trier abcdef force 99 aim 5 tires 20 coins 99 stays 99 lady;", 1);
         right("lean when min ( crowd , tried ) + max(last,lady) * rings / coins - 9999 = 0;", 1);
+    }
+
+    /** Fairs one behind the other, each with rules as long as can be: none leaves anything to the next one. */
+    private static void longRulesAnew() {
+        BellHammer x = new BellHammer();
+        String one = "trier a force 9 aim 0 tires 0 coins 9 stays 0;";
+        for (int i = 0; i < 5; i++) {
+            StringBuilder text = new StringBuilder(one + "lean when 0");
+            while (text.length() < 1560) {
+                text.append("+1");
+            }
+            int sum = (text.length() - one.length() - 11) / 2;
+            text.append(i % 2 == 0 ? "=" : "<").append(sum).append(";");
+            Check.text(x, text.toString());
+            Check.due("fair() of a long rule", x.fair(), 2);
+            Check.due("a long rule", x.leans(0, 0, 0, 0, 0), i % 2 == 0 ? 1 : 0);
+        }
+        Check.text(x, one + "lean when not all;");
+        x.fair();
+        Check.due("a short rule behind long ones", x.leans(0, 0, 0, 0, 0), 0);
     }
 
     private static void faultOfTheLatest() {

@@ -119,6 +119,12 @@ public final class TreeTest {
         Check.due("bet(0, 1, 1)", x.bet(0, 1, 1), 333);
         Check.due("bet(1, 0, 0)", x.bet(1, 0, 0), 166);
         Check.due("bet(1, 0, 1)", x.bet(1, 0, 1), 333);
+        BellHammer y = Check.at("trier a force 60 aim 0 tires 9 coins 0 stays 0; trier b force 60 aim 0 tires 9 coins 0 stays 0;"
+            + "trier c force 59 aim 0 tires 9 coins 0 stays 0;");
+        Check.due("alike for sure", y.bet(0, 1, 1), 1000);
+        Check.due("not higher", y.bet(0, 1, 0), 0);
+        Check.due("higher for sure", y.bet(0, 2, 0), 1000);
+        Check.due("not alike", y.bet(0, 2, 1), 0);
         int[][] none = {{0, 0, 0}, {1, 1, 1}, {0, 2, 0}, {2, 0, 0}, {-1, 0, 0}, {0, -1, 0}, {0, 1, 2}, {0, 1, -1}};
         for (int[] n : none) {
             Check.due("bet(" + n[0] + ", " + n[1] + ", " + n[2] + ")", x.bet(n[0], n[1], n[2]), -1);
