@@ -683,78 +683,84 @@ public final class BellHammer {
         static final int NUMBER = 2;
         static final int SIGN = 3;
         static final int STUCK = 4;
+        private static final int BLANK = 5;
+        static final int MOST_DIGITS = 4;
 
-        final int[] own = new int[Words.COUNT];
+        private final int[] own = new int[Words.COUNT];
+        private int[] text = new int[0];
+        private int length;
         private int at;
         int kind;
         int start;
         int size;
+        /** A word's first six letters as a name, a number's first four digits, a sign's byte. */
         int value;
 
         Reader() {
             for (int w = 0; w < Words.COUNT; w++) {
                 int name = 0;
-                for (int i = 0; i < NAME_LETTERS; i++) {
-                    char sign = Words.ALL.charAt(w * NAME_LETTERS + i);
+                for (int i = w * NAME_LETTERS; i < (w + 1) * NAME_LETTERS && i < Words.ALL.length(); i++) {
+                    char sign = Words.ALL.charAt(i);
                     name = name * 27 + (sign == ' ' ? 0 : sign - 'a' + 1);
                 }
                 own[w] = name;
             }
         }
 
-        void begin(int[] text, int length) {
+        void begin(int[] bytes, int count) {
+            text = bytes;
+            length = Math.min(count, bytes.length);
             at = 0;
             kind = END;
-            step(text, length);
+            step();
         }
 
-        void step(int[] text, int length) {
+        /** Goes on to the next word, number or sign. */
+        void step() {
             int behind = at;
             boolean isBehindOne = kind == WORD || kind == NUMBER;
-            while (at < length && isBlank(text[at])) {
+            while (at < length && kindOf(text[at]) == BLANK) {
                 at++;
             }
             start = at;
             size = 0;
             value = 0;
-            if (at >= length) {
-                kind = END;
-            } else if (isLetter(text[at])) {
-                readWord(text, length);
-            } else if (isDigit(text[at])) {
-                readNumber(text, length);
-            } else {
-                kind = SIGN;
+            kind = at < length ? kindOf(text[at]) : END;
+            if (kind == SIGN) {
                 value = text[at];
                 at++;
-            }
-            if (isBehindOne && start == behind && (kind == WORD || kind == NUMBER)) {
-                // Words and numbers side by side need a blank: this one fits nowhere.
-                kind = STUCK;
+            } else if (kind != END) {
+                readWhole();
+                if (isBehindOne && start == behind) {
+                    // Words and numbers side by side need a blank: this one fits nowhere.
+                    kind = STUCK;
+                }
             }
         }
 
-        private void readWord(int[] text, int length) {
-            kind = WORD;
-            for (; at < length && isLetter(text[at]); at++) {
-                if (size < NAME_LETTERS) {
+        private void readWhole() {
+            for (; at < length && kindOf(text[at]) == kind; at++) {
+                if (kind == WORD && size < NAME_LETTERS) {
                     value = value * 27 + text[at] - 'a' + 1;
                 }
-                size++;
-            }
-            for (int i = size; i < NAME_LETTERS; i++) {
-                value *= 27;
-            }
-        }
-
-        private void readNumber(int[] text, int length) {
-            kind = NUMBER;
-            for (; at < length && isDigit(text[at]); at++) {
-                if (size < 4) {
+                if (kind == NUMBER && size < MOST_DIGITS) {
                     value = value * 10 + text[at] - '0';
                 }
                 size++;
             }
+            for (int i = size; i < NAME_LETTERS && kind == WORD; i++) {
+                value *= 27;
+            }
+        }
+
+        private static int kindOf(int b) {
+            if (b == 10 || b == 32) {
+                return BLANK;
+            }
+            if (b >= 'a' && b <= 'z') {
+                return WORD;
+            }
+            return b >= '0' && b <= '9' ? NUMBER : SIGN;
         }
 
         boolean isWord(int word) {
@@ -773,18 +779,6 @@ public final class BellHammer {
             }
             return false;
         }
-
-        private static boolean isBlank(int b) {
-            return b == 10 || b == 32;
-        }
-
-        private static boolean isLetter(int b) {
-            return b >= 'a' && b <= 'z';
-        }
-
-        private static boolean isDigit(int b) {
-            return b >= '0' && b <= '9';
-        }
     }
 
     /** Reads a fair's text into its draft, up to the first fault along the text. */
@@ -795,23 +789,18 @@ public final class BellHammer {
         private static final int TOO_DEEP = 4;
         private static final int TOO_MANY = 5;
         private static final int MOST_OPEN = 6;
-        private static final int MOST_DIGITS = 4;
         private static final int MOST_NUMBER = 9999;
 
         private final Reader reader = new Reader();
         Fair draft = new Fair();
-        private int[] text = new int[0];
-        private int length;
         int fault;
         int place = NONE;
 
         boolean parse(int[] bytes, int size) {
-            text = bytes;
-            length = Math.min(size, bytes.length);
             fault = 0;
             place = NONE;
             draft.forget();
-            reader.begin(text, length);
+            reader.begin(bytes, size);
             for (int n = 0; n <= MOST_STATEMENTS; n++) {
                 if (reader.kind == Reader.END) {
                     draft.statements = n;
@@ -837,15 +826,11 @@ public final class BellHammer {
             return tell(WRONG, reader.start);
         }
 
-        private void step() {
-            reader.step(text, length);
-        }
-
         private boolean passSign(char sign) {
             if (!reader.isSign(sign)) {
                 return tellWrong();
             }
-            step();
+            reader.step();
             return true;
         }
 
@@ -853,7 +838,7 @@ public final class BellHammer {
             if (!reader.isWord(word)) {
                 return tellWrong();
             }
-            step();
+            reader.step();
             return true;
         }
 
@@ -873,7 +858,7 @@ public final class BellHammer {
                 tell(THERE_ALREADY, reader.start);
                 return NONE;
             }
-            step();
+            reader.step();
             return name;
         }
 
@@ -883,8 +868,8 @@ public final class BellHammer {
                 tellWrong();
                 return NONE;
             }
-            if (reader.size > MOST_DIGITS) {
-                tell(WRONG, reader.start + MOST_DIGITS);
+            if (reader.size > Reader.MOST_DIGITS) {
+                tell(WRONG, reader.start + Reader.MOST_DIGITS);
                 return NONE;
             }
             int number = reader.value;
@@ -892,7 +877,7 @@ public final class BellHammer {
                 tell(CANNOT_BE, reader.start);
                 return NONE;
             }
-            step();
+            reader.step();
             return number;
         }
 
@@ -907,12 +892,12 @@ public final class BellHammer {
                 return readLean();
             }
             if (reader.isWord(Words.COMES)) {
-                step();
+                reader.step();
                 return readSetting(COMES) && readSetting(COMES + 1) && readSetting(COMES + 2);
             }
             for (int setting = 0; setting < Words.OF_SETTING.length; setting++) {
                 if (reader.isWord(Words.OF_SETTING[setting])) {
-                    step();
+                    reader.step();
                     return readSetting(setting);
                 }
             }
@@ -933,7 +918,7 @@ public final class BellHammer {
             if (mark >= MOST_MARKS) {
                 return tell(TOO_MANY, reader.start);
             }
-            step();
+            reader.step();
             int name = passName();
             if (name == NONE || !passWord(Words.AT)) {
                 return false;
@@ -953,7 +938,7 @@ public final class BellHammer {
             if (trier >= MOST_TRIERS) {
                 return tell(TOO_MANY, reader.start);
             }
-            step();
+            reader.step();
             int name = passName();
             if (name == NONE) {
                 return false;
@@ -971,7 +956,7 @@ public final class BellHammer {
             }
             boolean isLady = reader.isWord(Words.LADY);
             if (isLady) {
-                step();
+                reader.step();
             }
             draft.traits[trier * TRAITS + LADY] = isLady ? 1 : 0;
             draft.trierName[trier] = name;
@@ -984,7 +969,7 @@ public final class BellHammer {
             if (rule >= MOST_RULES) {
                 return tell(TOO_MANY, reader.start);
             }
-            step();
+            reader.step();
             if (!passWord(Words.WHEN) || !readTest(0)) {
                 return false;
             }
@@ -998,7 +983,7 @@ public final class BellHammer {
                 return false;
             }
             for (int i = 0; i < MOST_BYTES && reader.isWord(Words.OR); i++) {
-                step();
+                reader.step();
                 if (!readBoth(open)) {
                     return false;
                 }
@@ -1012,7 +997,7 @@ public final class BellHammer {
                 return false;
             }
             for (int i = 0; i < MOST_BYTES && reader.isWord(Words.AND); i++) {
-                step();
+                reader.step();
                 if (!readFact(open)) {
                     return false;
                 }
@@ -1033,7 +1018,7 @@ public final class BellHammer {
                 return passOpener(open) && readTest(open + 1) && passSign(']');
             }
             if (reader.isWord(Words.ANYWAY)) {
-                step();
+                reader.step();
                 draft.emit(1);
                 return true;
             }
@@ -1045,7 +1030,7 @@ public final class BellHammer {
             if (open >= MOST_OPEN) {
                 return tell(TOO_DEEP, reader.start);
             }
-            step();
+            reader.step();
             return true;
         }
 
@@ -1057,7 +1042,7 @@ public final class BellHammer {
             if (op == Op.SAME && !reader.isSign('=')) {
                 return tellWrong();
             }
-            step();
+            reader.step();
             if (!readSum(open)) {
                 return false;
             }
@@ -1071,7 +1056,7 @@ public final class BellHammer {
             }
             for (int i = 0; i < MOST_BYTES && (reader.isSign('+') || reader.isSign('-')); i++) {
                 int op = reader.isSign('+') ? Op.PLUS : Op.MINUS;
-                step();
+                reader.step();
                 if (!readProduct(open)) {
                     return false;
                 }
@@ -1086,7 +1071,7 @@ public final class BellHammer {
             }
             for (int i = 0; i < MOST_BYTES && (reader.isSign('*') || reader.isSign('/')); i++) {
                 int op = reader.isSign('*') ? Op.TIMES : Op.OVER;
-                step();
+                reader.step();
                 if (!readPart(open)) {
                     return false;
                 }
@@ -1112,7 +1097,7 @@ public final class BellHammer {
             }
             for (int fact = 0; fact < Words.OF_FACT.length; fact++) {
                 if (reader.isWord(Words.OF_FACT[fact])) {
-                    step();
+                    reader.step();
                     draft.emit(Op.FACT + fact);
                     return true;
                 }
@@ -1121,7 +1106,7 @@ public final class BellHammer {
         }
 
         private boolean readPair(int open, int op) {
-            step();
+            reader.step();
             if (!reader.isSign('(')) {
                 return tellWrong();
             }
@@ -1221,18 +1206,16 @@ public final class BellHammer {
                 case Op.LESS: return a < b ? 1 : 0;
                 case Op.MORE: return a > b ? 1 : 0;
                 case Op.SAME: return a == b ? 1 : 0;
-                case Op.PLUS: return bounded((long) a + b);
-                case Op.MINUS: return bounded((long) a - b);
-                case Op.TIMES: return bounded((long) a * b);
-                case Op.OVER: return b == 0 ? 0 : Math.floorDiv(a, b);
                 case Op.LEAST: return Math.min(a, b);
                 case Op.GREATEST: return Math.max(a, b);
-                default: return 0;
+                case Op.OVER: return b == 0 ? 0 : Math.floorDiv(a, b);
+                default: return reckon(op, a, b);
             }
         }
 
-        private static int bounded(long n) {
-            return (int) Math.max(-BOUND, Math.min(BOUND, n));
+        private static int reckon(int op, long a, long b) {
+            long n = op == Op.PLUS ? a + b : op == Op.MINUS ? a - b : a * b;
+            return (int) (n > BOUND ? BOUND : n < -BOUND ? -BOUND : n);
         }
     }
 
@@ -1395,7 +1378,8 @@ public final class BellHammer {
                 turn.load(fair, trier, now);
                 Arrays.fill(knownRules, NONE);
                 for (int set = 0; set < sets; set++) {
-                    blowsByRules[set] += meanBlows(fair, set);
+                    Arrays.fill(knownBlows, NONE);
+                    blowsByRules[set] += blowsFrom(fair, set, 0, 0, 0, 0, WHOLE);
                 }
             }
             winner = 0;
@@ -1417,19 +1401,14 @@ public final class BellHammer {
                 for (int trier = 0; trier < fair.triers; trier++) {
                     turn.load(fair, trier, now);
                     turn.bell = bell;
-                    all += meanBlows(fair, 0);
+                    Arrays.fill(knownBlows, NONE);
+                    all += blowsFrom(fair, 0, 0, 0, 0, 0, WHOLE);
                 }
                 if (all > winnerBlows) {
                     winner = bell;
                     winnerBlows = all;
                 }
             }
-        }
-
-        /** Blows on the mean, in shares of WHOLE, of the turn that is loaded. */
-        private long meanBlows(Fair fair, int inForce) {
-            Arrays.fill(knownBlows, NONE);
-            return blowsFrom(fair, inForce, 0, 0, 0, 0, WHOLE);
         }
 
         /**
