@@ -13,6 +13,7 @@ public final class ActTest {
         sets();
         undoAll();
         undoTwenty();
+        undoNightsOfAllLengths();
         undoBringsBackKept();
         seeds();
         kept();
@@ -177,6 +178,37 @@ public final class ActTest {
         for (int i = 1; i <= 20; i++) {
             Check.due("undo " + i, x.undo(), true);
             Check.due("bell", x.has(4), 25 - i);
+        }
+        Check.due("undo 21", x.undo(), false);
+    }
+
+    /** Thirty acts, nights of 3, 1, 0 blows among others: each undo takes back just its own. */
+    private static void undoNightsOfAllLengths() {
+        BellHammer x = Check.at("trier a force 50 aim 0 tires 0 coins 3 stays 99; bell 99; tries 4; lean when all;");
+        int[] blows = new int[31];
+        int[] takings = new int[31];
+        int[] rules = new int[31];
+        int[] price = new int[31];
+        int[] prices = {1, 3, 4};
+        for (int act = 0; act <= 30; act++) {
+            blows[act] = x.has(12);
+            takings[act] = x.has(11);
+            rules[act] = x.has(3);
+            price[act] = x.has(5);
+            if (act % 3 == 0) {
+                x.set(2, prices[act / 3 % 3]);
+            } else if (act % 7 == 1) {
+                x.rule(0, x.has(3) == 0);
+            } else {
+                x.night();
+            }
+        }
+        for (int act = 30; act > 10; act--) {
+            Check.due("undo", x.undo(), true);
+            Check.due("blows ahead of act " + act, x.has(12), blows[act]);
+            Check.due("takings ahead of act " + act, x.has(11), takings[act]);
+            Check.due("rules ahead of act " + act, x.has(3), rules[act]);
+            Check.due("price ahead of act " + act, x.has(5), price[act]);
         }
         Check.due("undo 21", x.undo(), false);
     }

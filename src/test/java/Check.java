@@ -55,6 +55,17 @@ final class Check {
         tape(x, numbers);
     }
 
+    static void text(Model y, String text) {
+        for (int at = 0; at < text.length(); at += 20) {
+            int[] five = new int[5];
+            for (int i = 0; i < 20; i++) {
+                five[i / 4] = five[i / 4] << 8 | (at + i < text.length() ? text.charAt(at + i) : 32);
+            }
+            y.feed(five[0], five[1], five[2], five[3], five[4]);
+        }
+        y.end(text.length());
+    }
+
     /** A new object with this fair, which must be without a fault. */
     static BellHammer at(String text) {
         BellHammer x = new BellHammer();

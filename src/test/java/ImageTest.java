@@ -72,6 +72,8 @@ public final class ImageTest {
         for (int what = 0; what < want.length; what++) {
             Check.due("has(" + what + ") behind on()", x.has(what), want[what]);
         }
+        x.image();
+        octets(x, withCheck(3, 231, 4, 99, 224, 1, 99, 33, 3));
         Check.due("kept(0, 0)", x.kept(0, 0), -1);
         Check.due("undo()", x.undo(), false);
         Check.due("what is seen stays", x.was(-1), ways);

@@ -136,7 +136,12 @@ public final class TextTest {
         fault("mark a at 5 5;", 1, 12);
         fault("mark a at x;", 1, 10);
         fault("mark a ta 5;", 1, 7);
-        fault("mark lady at 5;", 1, 5);
+        for (String own : ("mark at trier force aim tires coins stays lady lean when bell price tries slack crowd near comes tried last"
+            + " rings or and not all min max").split(" ")) {
+            fault("mark " + own + " at 5;", 1, 5);
+            fault("trier " + own + " force 5", 1, 6);
+            right("mark " + own + "x at 5;", 1);
+        }
         fault("mark max at 5;", 1, 5);
         fault("mark abcdefg at 5;", 1, 11);
         fault("mark trierxx at 5;", 1, 11);

@@ -1,3 +1,5 @@
+import java.util.Random;
+
 /** Promises 15 to 18: tree, best, honest, bet. */
 public final class TreeTest {
     public static void main(String[] args) {
@@ -8,6 +10,7 @@ public final class TreeTest {
         honest();
         bet();
         widestTree();
+        bestByTheModel();
         Check.close();
     }
 
@@ -86,6 +89,10 @@ public final class TreeTest {
         Check.due("best(1) of two thirds", w.best(1), 3333);
         Check.due("best(2)", w.best(2), -1);
         Check.due("best(-1)", w.best(-1), -1);
+        // in a tree nobody has rung ahead of a blow
+        BellHammer noRings = Check.at(two + "lean when rings>0; lean when rings=0;");
+        Check.due("best(0), no rings", noRings.best(0), 2);
+        Check.due("best(1), no rings", noRings.best(1), 3000);
         BellHammer six = Check.at(two + "lean when not all;lean when not all;lean when not all;lean when not all;lean when 2<1;lean when lady=0;");
         Check.due("best(0), the sixth", six.best(0), 32);
         Check.due("best(0) of nobody", new BellHammer().best(0), 0);
@@ -128,6 +135,38 @@ public final class TreeTest {
         int[][] none = {{0, 0, 0}, {1, 1, 1}, {0, 2, 0}, {2, 0, 0}, {-1, 0, 0}, {0, -1, 0}, {0, 1, 2}, {0, 1, -1}};
         for (int[] n : none) {
             Check.due("bet(" + n[0] + ", " + n[1] + ", " + n[2] + ")", x.bet(n[0], n[1], n[2]), -1);
+        }
+    }
+
+    /** Fairs in which it matters how many came, how high the last one was and what is left: best against the plain model. */
+    private static void bestByTheModel() {
+        Random random = new Random(11);
+        for (int run = 0; run < 400; run++) {
+            StringBuilder text = new StringBuilder("bell 60; tries " + (run % 8 == 0 ? 2 : 3 + run % 2) + "; near " + (1 + random.nextInt(15)) + "; slack "
+                + random.nextInt(40) + "; comes 9 " + random.nextInt(5) + " " + random.nextInt(5) + "; crowd " + random.nextInt(4) + ";");
+            for (int i = 0; i < 1 + run % 2; i++) {
+                text.append("trier t").append((char) ('a' + i)).append(" force ").append(55 + random.nextInt(20)).append(" aim ")
+                    .append(1 + random.nextInt(run % 20 == 0 ? 5 : 3)).append(" tires ").append(random.nextInt(5)).append(" coins ")
+                    .append(5 + random.nextInt(9)).append(" stays ").append(10 + random.nextInt(30)).append(";");
+            }
+            for (int i = 0; i < 1 + run % 3; i++) {
+                String[] tests = {"crowd=" + random.nextInt(14), "crowd>" + random.nextInt(12), "crowd<" + random.nextInt(12),
+                    "last>" + (35 + random.nextInt(25)), "last-last/2*2=0", "tried=" + random.nextInt(4),
+                    "coins<" + (3 + random.nextInt(9)), "crowd*7-last/3*5>" + random.nextInt(20), "crowd-crowd/3*3=" + random.nextInt(3)};
+                text.append("lean when ").append(tests[random.nextInt(tests.length)]).append(random.nextBoolean() ? " and " : " or ")
+                    .append(tests[random.nextInt(tests.length)]).append(";");
+            }
+            BellHammer x = Check.at(text.toString());
+            Model y = new Model();
+            Check.text(y, text.toString());
+            y.fair();
+            Check.due("best(0) of " + text, x.best(0), y.best(0));
+            Check.due("best(1) of " + text, x.best(1), y.best(1));
+            Check.due("honest(0) of " + text, x.honest(0), y.honest(0));
+            Check.due("honest(1) of " + text, x.honest(1), y.honest(1));
+            for (int what = 0; what < 6; what++) {
+                Check.due("tree(0, " + what + ") of " + text, x.tree(0, what), y.tree(0, what));
+            }
         }
     }
 

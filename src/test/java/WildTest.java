@@ -35,14 +35,7 @@ public final class WildTest {
         x = new BellHammer();
         y = new Model();
         Check.text(x, fair);
-        for (int at = 0; at < fair.length(); at += 20) {
-            int[] f = new int[5];
-            for (int i = 0; i < 20; i++) {
-                f[i / 4] = f[i / 4] << 8 | (at + i < fair.length() ? fair.charAt(at + i) : 32);
-            }
-            y.feed(f[0], f[1], f[2], f[3], f[4]);
-        }
-        y.end(fair.length());
+        Check.text(y, fair);
         Check.due("fair()", x.fair(), y.fair());
         Check.due("fault(0)", x.fault(0), 0);
         for (int i = 0; i < 380; i++) {
