@@ -1305,7 +1305,7 @@ public final class BellHammer {
         private int most;
         int winner;
         private long winnerBlows;
-        /** Blows from each state on, and the rules that hold there; below 0 where it is not known yet. */
+        /** Blows from each state on, and the rules that hold there; NONE where it is not known yet. */
         private final long[] knownBlows = new long[STATES];
         private final int[] knownRules = new int[STATES];
         private final long[] blowsByRules = new long[1 << MOST_RULES];
@@ -1416,10 +1416,10 @@ public final class BellHammer {
          * Crowd and last blow follow from how many were near and which off, slack or tight, led here.
          */
         private long blowsFrom(Fair fair, int inForce, int struck, int near, int led, int last, long unit) {
-            if (struck >= MOST_BLOWS || near >= MOST_BLOWS || !turn.goesOn(struck, last)) {
+            int state = (struck * MOST_BLOWS + near) * LED_BY + led;
+            if (state < 0 || state >= STATES || !turn.goesOn(struck, last)) {
                 return 0;
             }
-            int state = (struck * MOST_BLOWS + near) * LED_BY + led;
             if (knownBlows[state] != NONE) {
                 return knownBlows[state];
             }
