@@ -146,7 +146,7 @@ public final class TreeTest {
                 + random.nextInt(40) + "; comes 9 " + random.nextInt(5) + " " + random.nextInt(5) + "; crowd " + random.nextInt(4) + ";");
             for (int i = 0; i < 1 + run % 2; i++) {
                 text.append("trier t").append((char) ('a' + i)).append(" force ").append(55 + random.nextInt(20)).append(" aim ")
-                    .append(1 + random.nextInt(run % 20 == 0 ? 5 : 3)).append(" tires ").append(random.nextInt(5)).append(" coins ")
+                    .append(1 + random.nextInt(run % 4 == 0 ? 5 : 3)).append(" tires ").append(random.nextInt(5)).append(" coins ")
                     .append(5 + random.nextInt(9)).append(" stays ").append(10 + random.nextInt(30)).append(";");
             }
             for (int i = 0; i < 1 + run % 3; i++) {
