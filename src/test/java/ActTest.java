@@ -88,14 +88,7 @@ public final class ActTest {
 
     private static void nightsAtMost() {
         BellHammer x = new BellHammer();
-        Check.tape(x, 3, 230, 0, 0, 0, 0, 50, 20, 1, 0);
-        int c = 139;
-        for (int b : new int[] {3, 230, 0, 0, 0, 0, 50, 20, 1}) {
-            c = (3 * c + b) % 253;
-        }
-        x.end(0);
-        Check.tape(x, 3, 230, 0, 0, 0, 0, 50, 20, 1, c);
-        Check.due("on()", x.on(), true);
+        Check.due("on()", Check.on(x, Check.withCheck(3, 230, 0, 0, 0, 0, 50, 20, 1)), true);
         Check.due("has(10)", x.has(10), 998);
         Check.due("night 999", x.night(), 0);
         Check.due("night 1000", x.night(), -1);

@@ -4,6 +4,9 @@ import java.nio.charset.StandardCharsets;
 final class Check {
     private static int wrong = 0;
     private static int looked = 0;
+    private static int sentences = 0;
+    private static String sentence = "";
+    private static int lookedBefore = 0;
 
     private Check() {
     }
@@ -13,9 +16,24 @@ final class Check {
         if (got != want) {
             wrong++;
             if (wrong <= 40) {
-                System.out.println(what + " answered " + got + ", due is " + want);
+                System.out.println((sentence.isEmpty() ? "" : "[" + sentence + "] ") + what + " answered " + got + ", due is " + want);
             }
         }
+    }
+
+    /** What follows looks at this sentence of the document, up to the next one; a sentence that nothing looks at is wrong. */
+    static void sentence(String words) {
+        endSentence();
+        sentences++;
+        sentence = words;
+        lookedBefore = looked;
+    }
+
+    private static void endSentence() {
+        if (!sentence.isEmpty() && looked == lookedBefore) {
+            due("what looks at this sentence", 0, 1);
+        }
+        sentence = "";
     }
 
     static void due(String what, boolean got, boolean want) {
@@ -27,7 +45,9 @@ final class Check {
     }
 
     static void close() {
-        System.out.println(looked + " answers looked at, " + wrong + " wrong");
+        endSentence();
+        String of = sentences > 0 ? " for " + sentences + " sentences" : "";
+        System.out.println(looked + " answers looked at" + of + ", " + wrong + " wrong");
         if (wrong != 0) {
             System.exit(1);
         }
@@ -74,5 +94,63 @@ final class Check {
             due("fair() of " + text, x.fault(0), 0);
         }
         return x;
+    }
+
+    /** A text that has so many statements and no fault, for a new object. */
+    static void right(String text, int statements) {
+        BellHammer x = new BellHammer();
+        text(x, text);
+        due("fair() of '" + text + "'", x.fair(), statements);
+        due("fault(0) of '" + text + "'", x.fault(0), 0);
+        due("fault(1) of '" + text + "'", x.fault(1), -1);
+        due("status(1) of '" + text + "'", x.status(1), 0);
+    }
+
+    /** A text with this fault at this place, for a new object. */
+    static void fault(String text, int fault, int place) {
+        BellHammer x = new BellHammer();
+        text(x, text);
+        due("fair() of '" + text + "'", x.fair(), -1);
+        due("fault(0) of '" + text + "'", x.fault(0), fault);
+        due("fault(1) of '" + text + "'", x.fault(1), place);
+    }
+
+    /** A text with this fault where the sign @ stands, which is no part of it. */
+    static void faultAt(int fault, String marked) {
+        int place = marked.indexOf('@');
+        fault(marked.substring(0, place) + marked.substring(place + 1), fault, place);
+    }
+
+    /** Numbers 0 to want.length - 1 of has(). */
+    static void has(String when, BellHammer x, int... want) {
+        for (int what = 0; what < want.length; what++) {
+            due("has(" + what + ") " + when, x.has(what), want[what]);
+        }
+    }
+
+    /** Nine bytes and the one that must stand behind them in an image. */
+    static int[] withCheck(int... nine) {
+        int[] all = new int[10];
+        int c = 139;
+        for (int i = 0; i < 9; i++) {
+            all[i] = nine[i];
+            c = (3 * c + nine[i]) % 253;
+        }
+        all[9] = c;
+        return all;
+    }
+
+    /** Whether on() takes just these bytes. */
+    static boolean on(BellHammer x, int... bytes) {
+        x.end(0);
+        tape(x, bytes);
+        return x.on();
+    }
+
+    /** Whether see() takes just these bytes. */
+    static boolean see(BellHammer x, int trier, int... bytes) {
+        x.end(0);
+        tape(x, bytes);
+        return x.see(trier);
     }
 }

@@ -12,23 +12,6 @@ public final class ImageTest {
         Check.close();
     }
 
-    private static int[] withCheck(int... nine) {
-        int[] all = new int[10];
-        int c = 139;
-        for (int i = 0; i < 9; i++) {
-            all[i] = nine[i];
-            c = (3 * c + nine[i]) % 253;
-        }
-        all[9] = c;
-        return all;
-    }
-
-    private static boolean on(BellHammer x, int... bytes) {
-        x.end(0);
-        Check.tape(x, bytes);
-        return x.on();
-    }
-
     private static void octets(BellHammer x, int... want) {
         for (int k = 0; k < want.length; k++) {
             Check.due("octet(" + k + ")", x.octet(k), want[k]);
@@ -49,14 +32,14 @@ public final class ImageTest {
         octets(x);
         Check.due("image()", x.image(), 10);
         // 20 nights of 36 coins are 720
-        octets(x, withCheck(0, 20, 0, 2, 208, 2, 7, 8, 9));
+        octets(x, Check.withCheck(0, 20, 0, 2, 208, 2, 7, 8, 9));
         x.set(2, 1);
         Check.due("the latest one stays", x.octet(8), 9);
         Check.text(x, "bell 3;");
         x.fair();
-        octets(x, withCheck(0, 20, 0, 2, 208, 2, 7, 8, 9));
+        octets(x, Check.withCheck(0, 20, 0, 2, 208, 2, 7, 8, 9));
         Check.due("image()", x.image(), 10);
-        octets(x, withCheck(0, 0, 0, 0, 0, 0, 3, 20, 1));
+        octets(x, Check.withCheck(0, 0, 0, 0, 0, 0, 3, 20, 1));
     }
 
     private static void on() {
@@ -67,19 +50,19 @@ public final class ImageTest {
         int ways = x.was(-1);
         x.set(0, 98);
         // 999 nights, 287712 takings: the most there can be
-        Check.due("on()", on(x, withCheck(3, 231, 4, 99, 224, 1, 99, 33, 3)), true);
+        Check.due("on()", Check.on(x, Check.withCheck(3, 231, 4, 99, 224, 1, 99, 33, 3)), true);
         int[] want = {0, 1, 2, 1, 99, 3, 4, 33, 0, 3, 999, 287712, 0, 0};
         for (int what = 0; what < want.length; what++) {
             Check.due("has(" + what + ") behind on()", x.has(what), want[what]);
         }
         x.image();
-        octets(x, withCheck(3, 231, 4, 99, 224, 1, 99, 33, 3));
+        octets(x, Check.withCheck(3, 231, 4, 99, 224, 1, 99, 33, 3));
         Check.due("kept(0, 0)", x.kept(0, 0), -1);
         Check.due("undo()", x.undo(), false);
         Check.due("what is seen stays", x.was(-1), ways);
         Check.due("the tape went", x.end(1), false);
         Check.due("night()", x.night(), -1);
-        Check.due("on() of few nights", on(x, withCheck(0, 9, 0, 0, 0, 3, 1, 0, 1)), true);
+        Check.due("on() of few nights", Check.on(x, Check.withCheck(0, 9, 0, 0, 0, 3, 1, 0, 1)), true);
         Check.due("night()", x.night() > 0, true);
         Check.due("it is the 10th", x.kept(0, 0), 10);
         // an image goes to another object of the same fair, acts and all
@@ -89,7 +72,7 @@ public final class ImageTest {
         for (int k = 0; k < 10; k++) {
             bytes[k] = x.octet(k);
         }
-        Check.due("on() elsewhere", on(y, bytes), true);
+        Check.due("on() elsewhere", Check.on(y, bytes), true);
         for (int what = 0; what < 12; what++) {
             Check.due("has(" + what + ") elsewhere", y.has(what), x.has(what));
         }
@@ -115,26 +98,26 @@ public final class ImageTest {
             {0, 0, 0, 0, 0, 0, 50, 20, 10}};
         int refused = 0;
         for (int[] w : wrong) {
-            Check.due("on() of " + Arrays.toString(w), on(x, withCheck(w)), false);
+            Check.due("on() of " + Arrays.toString(w), Check.on(x, Check.withCheck(w)), false);
             refused++;
         }
-        int[] right = withCheck(0, 1, 0, 1, 32, 3, 99, 90, 9);
+        int[] right = Check.withCheck(0, 1, 0, 1, 32, 3, 99, 90, 9);
         for (int i = 0; i < 10; i++) {
             int[] other = right.clone();
             other[i] ^= 1;
-            Check.due("on() with a wrong byte " + i, on(x, other), false);
+            Check.due("on() with a wrong byte " + i, Check.on(x, other), false);
             refused++;
         }
-        Check.due("on() of nothing", on(x), false);
-        Check.due("on() of nine", on(x, Arrays.copyOf(right, 9)), false);
-        Check.due("on() of eleven", on(x, Arrays.copyOf(right, 11)), false);
+        Check.due("on() of nothing", Check.on(x), false);
+        Check.due("on() of nine", Check.on(x, Arrays.copyOf(right, 9)), false);
+        Check.due("on() of eleven", Check.on(x, Arrays.copyOf(right, 11)), false);
         Check.due("status(5)", x.status(5), refused + 3);
         int[] stays = {0, 1, 2, 3, 98, 9, 4, 33, 0, 3, 1, 36, 4, 2};
         for (int what = 0; what < stays.length; what++) {
             Check.due("has(" + what + ") stays", x.has(what), stays[what]);
         }
-        Check.due("on() at last", on(x, right), true);
-        Check.due("no rules, no bits", on(new BellHammer(), withCheck(0, 0, 0, 0, 0, 1, 50, 20, 1)), false);
+        Check.due("on() at last", Check.on(x, right), true);
+        Check.due("no rules, no bits", Check.on(new BellHammer(), Check.withCheck(0, 0, 0, 0, 0, 1, 50, 20, 1)), false);
     }
 
     private static void statuses() {

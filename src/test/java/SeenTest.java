@@ -13,59 +13,53 @@ public final class SeenTest {
         Check.close();
     }
 
-    private static boolean seen(BellHammer x, int trier, int... bytes) {
-        x.end(0);
-        Check.tape(x, bytes);
-        return x.see(trier);
-    }
-
     private static void see() {
         BellHammer x = Check.at(ANN);
-        Check.due("see of nothing", seen(x, 0), false);
+        Check.due("see of nothing", Check.see(x, 0), false);
         Check.due("was(-1)", x.was(-1), -1);
         Check.due("strong(0)", x.strong(0), -1);
         Check.due("next(false)", x.next(false), -1);
-        Check.due("see 50", seen(x, 0, 50), true);
-        Check.due("see 0", seen(x, 0, 0), true);
-        Check.due("see four", seen(x, 0, 50, 49, 0, 50), true);
+        Check.due("see 50", Check.see(x, 0, 50), true);
+        Check.due("see 0", Check.see(x, 0, 0), true);
+        Check.due("see four", Check.see(x, 0, 50, 49, 0, 50), true);
         Check.due("was(3)", x.was(3), 0);
-        Check.due("see five", seen(x, 0, 1, 1, 1, 1, 1), false);
-        Check.due("see 51", seen(x, 0, 50, 51), false);
-        Check.due("see 255", seen(x, 0, 255), false);
-        Check.due("no trier 2", seen(x, 2, 1), false);
-        Check.due("no trier -1", seen(x, -1, 1), false);
+        Check.due("see five", Check.see(x, 0, 1, 1, 1, 1, 1), false);
+        Check.due("see 51", Check.see(x, 0, 50, 51), false);
+        Check.due("see 255", Check.see(x, 0, 255), false);
+        Check.due("no trier 2", Check.see(x, 2, 1), false);
+        Check.due("no trier -1", Check.see(x, -1, 1), false);
         Check.due("status(1)", x.status(1), 6);
         Check.due("the tape went", x.end(1), false);
         Check.due("what was seen stays", x.was(3), 0);
         x.set(0, 60);
-        Check.due("see 51 now", seen(x, 0, 51), true);
-        Check.due("see 61 now", seen(x, 0, 61), false);
+        Check.due("see 51 now", Check.see(x, 0, 51), true);
+        Check.due("see 61 now", Check.see(x, 0, 61), false);
     }
 
     private static void was() {
         BellHammer x = Check.at(ANN);
         // ann: tight 50 (rings), 50 (54 rings); slack 48, 43; then tight 50 (55), 49; slack 44, 39
-        seen(x, 0, 50);
+        Check.see(x, 0, 50);
         Check.due("ways to ring", x.was(-1), 2);
         Check.due("tight for sure", x.was(0), 0);
-        seen(x, 0, 48, 49);
+        Check.see(x, 0, 48, 49);
         Check.due("ways", x.was(-1), 1);
         Check.due("was 0 slack", x.was(0), 1000);
         Check.due("was 1 slack", x.was(1), 0);
         Check.due("was(2)", x.was(2), -1);
         Check.due("was(-2)", x.was(-2), -1);
-        seen(x, 0, 48, 48);
+        Check.see(x, 0, 48, 48);
         Check.due("no ways", x.was(-1), 0);
         Check.due("0 without ways", x.was(0), 0);
         Check.due("0 without ways, 1", x.was(1), 0);
         // bob: tight 48, 43, 38; slack 38, 34, 30
-        seen(x, 1, 38, 48, 38);
+        Check.see(x, 1, 38, 48, 38);
         Check.due("ways of bob", x.was(-1), 4);
         Check.due("bob was 0 slack", x.was(0), 500);
         Check.due("bob was 1 slack", x.was(1), 0);
         Check.due("bob was 2 slack", x.was(2), 500);
         BellHammer y = Check.at("trier a force 1 aim 5 tires 0 coins 0 stays 0; slack 0;");
-        seen(y, 0, 0, 0, 0, 0);
+        Check.see(y, 0, 0, 0, 0, 0);
         Check.due("ways of many", y.was(-1), 10000);
         Check.due("half slack", y.was(2), 500);
         y.set(1, 90);
@@ -75,7 +69,7 @@ public final class SeenTest {
 
     private static void bellMoves() {
         BellHammer x = Check.at(ANN);
-        seen(x, 0, 50);
+        Check.see(x, 0, 50);
         Check.due("a ring", x.was(-1), 2);
         x.set(0, 54);
         Check.due("no blow is 50 now", x.was(-1), 0);
@@ -87,24 +81,24 @@ public final class SeenTest {
 
     private static void strong() {
         BellHammer x = Check.at(ANN);
-        seen(x, 1, 50);
+        Check.see(x, 1, 50);
         // tight from 50 on; slack at 63 and on; 99 at most
         Check.due("strong(0)", x.strong(0), 50);
         Check.due("strong(1)", x.strong(1), 50);
         Check.due("strong(2)", x.strong(2), 99);
         Check.due("strong(3)", x.strong(3), -1);
         Check.due("strong(-1)", x.strong(-1), -1);
-        seen(x, 0, 10, 49);
+        Check.see(x, 0, 10, 49);
         Check.due("none can", x.strong(0), 0);
         Check.due("no least", x.strong(1), -1);
         Check.due("no greatest", x.strong(2), -1);
         BellHammer y = Check.at("trier a force 9 aim 0 tires 4 coins 9 stays 99; bell 20; slack 50;");
         // f or f/2 is 8; then f - 4 or half of it is 6: 16 and 17 by halves, as 12/2 and 13/2 are 6
-        seen(y, 0, 8, 6);
+        Check.see(y, 0, 8, 6);
         Check.due("halves", y.strong(0), 2);
         Check.due("the least", y.strong(1), 16);
         Check.due("the greatest", y.strong(2), 17);
-        seen(y, 0, 0);
+        Check.see(y, 0, 0);
         // 1 slack is 0
         Check.due("the weakest", y.strong(1), 1);
         Check.due("the weakest alone", y.strong(0), 1);
@@ -116,21 +110,21 @@ public final class SeenTest {
         BellHammer x = Check.at("trier a force 60 aim 2 tires 5 coins 0 stays 0; bell 50; slack 10; tries 3;");
         // first 60, 54, 48; second 55, 49, 44; third 50, 45, 40
         Check.due("nothing seen", x.next(false), -1);
-        seen(x, 0, 48);
+        Check.see(x, 0, 48);
         Check.due("second tight", x.next(false), 333);
         Check.due("second slack", x.next(true), 0);
         x.set(0, 49);
         Check.due("second tight, lower", x.next(false), 666);
         Check.due("second slack, lower", x.next(true), 333);
-        seen(x, 0, 48, 48);
+        Check.see(x, 0, 48, 48);
         Check.due("third tight", x.next(false), 333);
         BellHammer y = Check.at("trier a force 60 aim 0 tires 10 coins 0 stays 0; bell 50; slack 10;");
-        seen(y, 0, 50);
+        Check.see(y, 0, 50);
         Check.due("for sure", y.next(false), 1000);
         Check.due("surely not", y.next(true), 0);
-        seen(x, 0, 48, 48, 48);
+        Check.see(x, 0, 48, 48, 48);
         Check.due("as many as tries", x.next(false), -1);
-        seen(x, 0, 48, 48, 48, 48);
+        Check.see(x, 0, 48, 48, 48, 48);
         Check.due("more than tries", x.next(false), -1);
     }
 

@@ -114,83 +114,75 @@ public final class TextTest {
         }
     }
 
-    private static void fault(String text, int fault, int place) {
-        BellHammer x = new BellHammer();
-        Check.text(x, text);
-        Check.due("fair() of '" + text + "'", x.fair(), -1);
-        Check.due("fault(0) of '" + text + "'", x.fault(0), fault);
-        Check.due("fault(1) of '" + text + "'", x.fault(1), place);
-    }
-
     private static void wrongBytes() {
-        fault(";", 1, 0);
-        fault("x;", 1, 0);
-        fault("  mar", 1, 2);
-        fault("marks a at 1;", 1, 0);
-        fault("Mark a at 1;", 1, 0);
-        fault("mark", 1, 4);
-        fault("mark \n ", 1, 7);
-        fault("mark a", 1, 6);
-        fault("mark a at", 1, 9);
-        fault("mark a at 5", 1, 11);
-        fault("mark a at 5 5;", 1, 12);
-        fault("mark a at x;", 1, 10);
-        fault("mark a ta 5;", 1, 7);
+        Check.fault(";", 1, 0);
+        Check.fault("x;", 1, 0);
+        Check.fault("  mar", 1, 2);
+        Check.fault("marks a at 1;", 1, 0);
+        Check.fault("Mark a at 1;", 1, 0);
+        Check.fault("mark", 1, 4);
+        Check.fault("mark \n ", 1, 7);
+        Check.fault("mark a", 1, 6);
+        Check.fault("mark a at", 1, 9);
+        Check.fault("mark a at 5", 1, 11);
+        Check.fault("mark a at 5 5;", 1, 12);
+        Check.fault("mark a at x;", 1, 10);
+        Check.fault("mark a ta 5;", 1, 7);
         for (String own : ("mark at trier force aim tires coins stays lady lean when bell price tries slack crowd near comes tried last"
             + " rings or and not all min max").split(" ")) {
-            fault("mark " + own + " at 5;", 1, 5);
-            fault("trier " + own + " force 5", 1, 6);
-            right("mark " + own + "x at 5;", 1);
+            Check.fault("mark " + own + " at 5;", 1, 5);
+            Check.fault("trier " + own + " force 5", 1, 6);
+            Check.right("mark " + own + "x at 5;", 1);
         }
-        fault("mark max at 5;", 1, 5);
-        fault("mark abcdefg at 5;", 1, 11);
-        fault("mark trierxx at 5;", 1, 11);
-        fault("mark 5 at 5;", 1, 5);
-        fault("mark 12345 at 5;", 1, 5);
-        fault("mark aB at 5;", 1, 6);
-        fault("mark a\tat 5;", 1, 6);
-        fault("mark a\rat 5;", 1, 6);
-        fault("mark \u00e9 at 5;", 1, 5);
-        fault("mark a at 5;\u0000", 1, 12);
-        fault("bell 12345;", 1, 9);
-        fault("bell 00001;", 1, 9);
-        fault("bell;", 1, 4);
-        fault("bell -1;", 1, 5);
-        fault("bell 5,", 1, 6);
-        fault("comes 1 2;", 1, 9);
-        fault("comes 1 2 3 4;", 1, 12);
-        fault("trier a aim 1;", 1, 8);
-        fault("trier a force 5 tires 5;", 1, 16);
-        fault(ANN + " lady lady;", 1, ANN.length() + 6);
-        fault(ANN + " gent;", 1, ANN.length() + 1);
-        fault("at 5;", 1, 0);
-        fault("lean all;", 1, 5);
-        fault("lean when;", 1, 9);
-        fault("lean when 1;", 1, 11);
-        fault("lean when 1 and 2;", 1, 12);
-        fault("lean when 1<2<3;", 1, 13);
-        fault("lean when 1<=3;", 1, 12);
-        fault("lean when 12345<3;", 1, 14);
-        fault("lean when -1<3;", 1, 10);
-        fault("lean when (1<3);", 1, 12);
-        fault("lean when [1<3);", 1, 14);
-        fault("lean when [1];", 1, 12);
-        fault("lean when [all;", 1, 14);
-        fault("lean when all and;", 1, 17);
-        fault("lean when all or or all;", 1, 17);
-        fault("lean when all all;", 1, 14);
-        fault("lean when all<3;", 1, 13);
-        fault("lean when min 1,2)<3;", 1, 14);
-        fault("lean when min(1 2)<3;", 1, 16);
-        fault("lean when max(1,2,3)<3;", 1, 17);
-        fault("lean when (1,2)<3;", 1, 12);
-        fault("lean when force<3;", 1, 10);
-        fault("lean when 1<notx;", 1, 12);
-        fault("lean when 1<not all;", 1, 12);
-        fault("lean when 1<3", 1, 13);
-        fault("lean when 1<", 1, 12);
-        fault("lean when crowds<1;", 1, 10);
-        fault("bell 5;;", 1, 7);
+        Check.fault("mark max at 5;", 1, 5);
+        Check.fault("mark abcdefg at 5;", 1, 11);
+        Check.fault("mark trierxx at 5;", 1, 11);
+        Check.fault("mark 5 at 5;", 1, 5);
+        Check.fault("mark 12345 at 5;", 1, 5);
+        Check.fault("mark aB at 5;", 1, 6);
+        Check.fault("mark a\tat 5;", 1, 6);
+        Check.fault("mark a\rat 5;", 1, 6);
+        Check.fault("mark \u00e9 at 5;", 1, 5);
+        Check.fault("mark a at 5;\u0000", 1, 12);
+        Check.fault("bell 12345;", 1, 9);
+        Check.fault("bell 00001;", 1, 9);
+        Check.fault("bell;", 1, 4);
+        Check.fault("bell -1;", 1, 5);
+        Check.fault("bell 5,", 1, 6);
+        Check.fault("comes 1 2;", 1, 9);
+        Check.fault("comes 1 2 3 4;", 1, 12);
+        Check.fault("trier a aim 1;", 1, 8);
+        Check.fault("trier a force 5 tires 5;", 1, 16);
+        Check.fault(ANN + " lady lady;", 1, ANN.length() + 6);
+        Check.fault(ANN + " gent;", 1, ANN.length() + 1);
+        Check.fault("at 5;", 1, 0);
+        Check.fault("lean all;", 1, 5);
+        Check.fault("lean when;", 1, 9);
+        Check.fault("lean when 1;", 1, 11);
+        Check.fault("lean when 1 and 2;", 1, 12);
+        Check.fault("lean when 1<2<3;", 1, 13);
+        Check.fault("lean when 1<=3;", 1, 12);
+        Check.fault("lean when 12345<3;", 1, 14);
+        Check.fault("lean when -1<3;", 1, 10);
+        Check.fault("lean when (1<3);", 1, 12);
+        Check.fault("lean when [1<3);", 1, 14);
+        Check.fault("lean when [1];", 1, 12);
+        Check.fault("lean when [all;", 1, 14);
+        Check.fault("lean when all and;", 1, 17);
+        Check.fault("lean when all or or all;", 1, 17);
+        Check.fault("lean when all all;", 1, 14);
+        Check.fault("lean when all<3;", 1, 13);
+        Check.fault("lean when min 1,2)<3;", 1, 14);
+        Check.fault("lean when min(1 2)<3;", 1, 16);
+        Check.fault("lean when max(1,2,3)<3;", 1, 17);
+        Check.fault("lean when (1,2)<3;", 1, 12);
+        Check.fault("lean when force<3;", 1, 10);
+        Check.fault("lean when 1<notx;", 1, 12);
+        Check.fault("lean when 1<not all;", 1, 12);
+        Check.fault("lean when 1<3", 1, 13);
+        Check.fault("lean when 1<", 1, 12);
+        Check.fault("lean when crowds<1;", 1, 10);
+        Check.fault("bell 5;;", 1, 7);
     }
 
     private static void wrongNumbers() {
@@ -200,99 +192,90 @@ public final class TextTest {
         int[] least = {1, 1, 1, 1, 0, 0, 0, 0, 0, 0, 1, 0, 0, 0, 0};
         int[] most = {99, 99, 9, 4, 90, 99, 20, 9, 9, 9, 99, 5, 20, 99, 99};
         for (int i = 0; i < ahead.length; i++) {
-            fault(ahead[i] + " " + (most[i] + 1), 2, ahead[i].length() + 1);
-            fault(ahead[i] + " 9999;", 2, ahead[i].length() + 1);
-            fault(ahead[i] + " " + most[i], 1, ahead[i].length() + 1 + ("" + most[i]).length());
-            fault(ahead[i] + " 000" + least[i], 1, ahead[i].length() + 5);
+            Check.fault(ahead[i] + " " + (most[i] + 1), 2, ahead[i].length() + 1);
+            Check.fault(ahead[i] + " 9999;", 2, ahead[i].length() + 1);
+            Check.fault(ahead[i] + " " + most[i], 1, ahead[i].length() + 1 + ("" + most[i]).length());
+            Check.fault(ahead[i] + " 000" + least[i], 1, ahead[i].length() + 5);
             if (least[i] > 0) {
-                fault(ahead[i] + " 0000;", 2, ahead[i].length() + 1);
+                Check.fault(ahead[i] + " 0000;", 2, ahead[i].length() + 1);
             }
         }
-        fault("bell 100x", 2, 5);
+        Check.fault("bell 100x", 2, 5);
     }
 
     private static void namesThatAreThere() {
-        fault("mark a at 1; mark b at 1; mark a at 2;", 3, 31);
-        fault("mark ann at 1; " + ANN, 3, 21);
-        fault(ANN + "; mark ann at 1;", 3, ANN.length() + 7);
-        fault(ANN + "; " + ANN, 3, ANN.length() + 8);
-        fault("mark abcdef at 1; mark abcdef", 3, 23);
-        right("mark abcdef at 1; mark abcde at 1; mark a at 1;", 3);
+        Check.fault("mark a at 1; mark b at 1; mark a at 2;", 3, 31);
+        Check.fault("mark ann at 1; " + ANN, 3, 21);
+        Check.fault(ANN + "; mark ann at 1;", 3, ANN.length() + 7);
+        Check.fault(ANN + "; " + ANN, 3, ANN.length() + 8);
+        Check.fault("mark abcdef at 1; mark abcdef", 3, 23);
+        Check.right("mark abcdef at 1; mark abcde at 1; mark a at 1;", 3);
     }
 
     private static void openers() {
-        fault("lean when (((((((1", 4, 16);
-        fault("lean when [[[[[[[1", 4, 16);
-        fault("lean when not not not not not not not all;", 4, 34);
-        fault("lean when [ not [ not ( ( 1+(2", 4, 28);
-        fault("lean when [ not [ not ( ( min(2", 4, 29);
-        fault("lean when [ not [ not ( max ( min ( 2", 4, 34);
-        fault("lean when min(1,min(1,min(1,min(1,min(1,min(1,min(1", 4, 49);
-        fault("lean when not [not [not (1)<2 and not not not all]];", 4, 42);
-        fault("lean when not 1<((((((2", 4, 21);
-        right("lean when ((((((1))))))<((((((2))))))+((((((3))))))-min((((((1))))),2);", 1);
-        right("lean when [[[[[[all]]]]]] and [[[[[[all]]]]]];", 1);
-        right("lean when not not not not not not all and not not not not not not all;", 1);
-        right("lean when not not not not not not 1<2 or [[[[[(1)<2]]]]];", 1);
-        right("lean when not [not [not (1)<2 and not not all]] or not [[[[[all]]]]];", 1);
-        right("lean when [[[[[not all and not 1<2 or all]]]]];", 1);
+        Check.fault("lean when (((((((1", 4, 16);
+        Check.fault("lean when [[[[[[[1", 4, 16);
+        Check.fault("lean when not not not not not not not all;", 4, 34);
+        Check.fault("lean when [ not [ not ( ( 1+(2", 4, 28);
+        Check.fault("lean when [ not [ not ( ( min(2", 4, 29);
+        Check.fault("lean when [ not [ not ( max ( min ( 2", 4, 34);
+        Check.fault("lean when min(1,min(1,min(1,min(1,min(1,min(1,min(1", 4, 49);
+        Check.fault("lean when not [not [not (1)<2 and not not not all]];", 4, 42);
+        Check.fault("lean when not 1<((((((2", 4, 21);
+        Check.right("lean when ((((((1))))))<((((((2))))))+((((((3))))))-min((((((1))))),2);", 1);
+        Check.right("lean when [[[[[[all]]]]]] and [[[[[[all]]]]]];", 1);
+        Check.right("lean when not not not not not not all and not not not not not not all;", 1);
+        Check.right("lean when not not not not not not 1<2 or [[[[[(1)<2]]]]];", 1);
+        Check.right("lean when not [not [not (1)<2 and not not all]] or not [[[[[all]]]]];", 1);
+        Check.right("lean when [[[[[not all and not 1<2 or all]]]]];", 1);
     }
 
     private static void tooMany() {
         String marks = "mark a at 1;mark b at 1;mark c at 1;mark d at 1;mark e at 1;mark f at 1;";
-        right(marks, 6);
-        fault(marks + " mark", 5, marks.length() + 1);
-        fault(marks + "mark a at 1;", 5, marks.length());
-        fault(marks + "marks", 1, marks.length());
+        Check.right(marks, 6);
+        Check.fault(marks + " mark", 5, marks.length() + 1);
+        Check.fault(marks + "mark a at 1;", 5, marks.length());
+        Check.fault(marks + "marks", 1, marks.length());
         StringBuilder triers = new StringBuilder();
         for (char c = 'a'; c <= 'h'; c++) {
             triers.append("trier t").append(c).append(" force 1 aim 0 tires 0 coins 0 stays 0;");
         }
-        right(triers.toString(), 8);
-        fault(triers + "\ntrier", 5, triers.length() + 1);
+        Check.right(triers.toString(), 8);
+        Check.fault(triers + "\ntrier", 5, triers.length() + 1);
         String leans = "lean when all;lean when all;lean when all;lean when all;lean when all;lean when all;";
-        right(leans, 6);
-        fault(leans + "lean when", 5, leans.length());
+        Check.right(leans, 6);
+        Check.fault(leans + "lean when", 5, leans.length());
         StringBuilder seventy = new StringBuilder();
         for (int i = 0; i < 70; i++) {
             seventy.append("bell ").append(i % 99 + 1).append(";");
         }
-        right(seventy + " \n ", 70);
-        fault(seventy + " bell 5;", 5, seventy.length() + 1);
-        fault(seventy + "?", 5, seventy.length());
-        fault(seventy + ";", 5, seventy.length());
+        Check.right(seventy + " \n ", 70);
+        Check.fault(seventy + " bell 5;", 5, seventy.length() + 1);
+        Check.fault(seventy + "?", 5, seventy.length());
+        Check.fault(seventy + ";", 5, seventy.length());
     }
 
     private static void sideBySide() {
-        fault("bell50;", 1, 4);
-        fault("mark a at5;", 1, 9);
-        fault("mark a5;", 1, 6);
-        fault("trier a force 9aim 5;", 1, 15);
-        fault("lean when 1<2and all;", 1, 13);
-        fault("lean when 1<2or all;", 1, 13);
-        fault("lean when not1<2;", 1, 13);
-        fault("lean when crowd1<2;", 1, 15);
-        fault(ANN + "lady;", 1, ANN.length());
-        right("lean when[all]and[1<2]or(3)=3 and[all];", 1);
-    }
-
-    private static void right(String text, int statements) {
-        BellHammer x = new BellHammer();
-        Check.text(x, text);
-        Check.due("fair() of '" + text + "'", x.fair(), statements);
-        Check.due("fault(0) of '" + text + "'", x.fault(0), 0);
-        Check.due("fault(1) of '" + text + "'", x.fault(1), -1);
-        Check.due("status(1) of '" + text + "'", x.status(1), 0);
+        Check.fault("bell50;", 1, 4);
+        Check.fault("mark a at5;", 1, 9);
+        Check.fault("mark a5;", 1, 6);
+        Check.fault("trier a force 9aim 5;", 1, 15);
+        Check.fault("lean when 1<2and all;", 1, 13);
+        Check.fault("lean when 1<2or all;", 1, 13);
+        Check.fault("lean when not1<2;", 1, 13);
+        Check.fault("lean when crowd1<2;", 1, 15);
+        Check.fault(ANN + "lady;", 1, ANN.length());
+        Check.right("lean when[all]and[1<2]or(3)=3 and[all];", 1);
     }
 
     private static void rightTexts() {
-        right("", 0);
-        right(" \n\n ", 0);
-        right("\nmark\na\nat\n5\n;\n", 1);
-        right("mark a at 5;mark b at 05;bell 0099;", 3);
-        right("comes 9 9 9;comes 0 0 0;slack 0;slack 90;near 0;near 20;crowd 0;crowd 99;price 9;tries 4;", 10);
-        right("trier abcdef force 99 aim 5 tires 20 coins 99 stays 99 lady;", 1);
-        right("lean when min ( crowd , tried ) + max(last,lady) * rings / coins - 9999 = 0;", 1);
+        Check.right("", 0);
+        Check.right(" \n\n ", 0);
+        Check.right("\nmark\na\nat\n5\n;\n", 1);
+        Check.right("mark a at 5;mark b at 05;bell 0099;", 3);
+        Check.right("comes 9 9 9;comes 0 0 0;slack 0;slack 90;near 0;near 20;crowd 0;crowd 99;price 9;tries 4;", 10);
+        Check.right("trier abcdef force 99 aim 5 tires 20 coins 99 stays 99 lady;", 1);
+        Check.right("lean when min ( crowd , tried ) + max(last,lady) * rings / coins - 9999 = 0;", 1);
     }
 
     /** Fairs one behind the other, each with rules as long as can be: none leaves anything to the next one. */
