@@ -17,6 +17,7 @@ public final class EdgeActTest {
         rule();
         set();
         lastTwenty();
+        lastTwentyOfAllKinds();
         undo();
         undoNights();
         seed();
@@ -44,6 +45,21 @@ public final class EdgeActTest {
             blows("of night " + (night + 1), x, 4, 3 * night, 50, 22, 22);
         }
         Check.due("a night of nobody", new BellHammer().night(), 0);
+        Check.sentence("I: RINGS of this night so far; 1 of a lady, else 0; his coins");
+        // 50 rings, 49 does not; c is a lady, d has another purse
+        BellHammer y = Check.at("trier a force 49 aim 0 tires 0 coins 1 stays 0; trier b force 50 aim 0 tires 0 coins 1 stays 0;"
+            + "trier c force 50 aim 0 tires 0 coins 1 stays 0 lady; trier d force 49 aim 0 tires 0 coins 2 stays 0; trier e force 50 aim 0 tires 0 coins 1 stays 0;"
+            + "slack 50; lean when rings=0 and lady=1; lean when rings=1; lean when rings=2 and coins=2;");
+        y.rule(1, false);
+        y.night();
+        blows("of a lady", y, 3, 0, 0, 0, 0, 1, 0);
+        y.rule(1, true);
+        y.night();
+        // behind b there is one ring; all from c on are leant on, and none rings any more
+        blows("behind one ring", y, 3, 5, 0, 0, 1, 1, 1);
+        y.set(0, 51);
+        y.night();
+        blows("behind none", y, 3, 10, 0, 0, 1, 0, 0);
     }
 
     private static void nightByNumbers() {
@@ -139,6 +155,7 @@ public final class EdgeActTest {
                 Check.due("the oldest one behind " + n, x.kept(0, 0), Math.max(1, n - 59));
                 Check.due("the latest one behind " + n, x.kept(Math.min(n, 60) - 1, 0), n);
                 Check.due("none behind it, " + n, x.kept(Math.min(n, 60), 0), -1);
+                Check.due("none ahead of it, " + n, x.kept(-1, 0), -1);
             }
         }
         BellHammer y = Check.at("trier a force 50 aim 0 tires 1 coins 99 stays 99; bell 99; tries 4; trier b force 30 aim 0 tires 1 coins 99 stays 99;");
@@ -344,6 +361,34 @@ public final class EdgeActTest {
         Check.due("the bell", y.has(4), 5);
         Check.due("slack", y.has(7), 20);
         Check.due("undo() at last", y.undo(), false);
+    }
+
+    /** Acts of all kinds, nights of 3, 1 and no blows among them: behind each number of undos all is as it was there. */
+    private static void lastTwentyOfAllKinds() {
+        Check.sentence("II: ACTS: a NIGHT; a RULE in force or not; the BELL, slack, price are others. The last 20 can be undone");
+        for (int acts = 20; acts <= 27; acts++) {
+            BellHammer x = Check.at("trier a force 50 aim 0 tires 0 coins 3 stays 99; bell 99; tries 4; lean when all;");
+            int[][] was = new int[acts][6];
+            for (int act = 0; act < acts; act++) {
+                was[act] = new int[] {x.has(3), x.has(4), x.has(5), x.has(7), x.has(11), x.has(12)};
+                switch (act * act % 7 + act % 3) {
+                    case 0: x.set(2, new int[] {1, 3, 4}[act % 3]); break;
+                    case 1: x.rule(0, x.has(3) == 0); break;
+                    case 2: x.set(0, 51 + act); break;
+                    case 3: x.set(1, act); break;
+                    default: x.night();
+                }
+            }
+            Check.due("has(13) behind " + acts, x.has(13), 20);
+            int[] has = {3, 4, 5, 7, 11, 12};
+            for (int act = acts - 1; act >= acts - 20; act--) {
+                Check.due("undo() of act " + act, x.undo(), true);
+                for (int i = 0; i < 6; i++) {
+                    Check.due("has(" + has[i] + ") ahead of act " + act + " of " + acts, x.has(has[i]), was[act][i]);
+                }
+            }
+            Check.due("undo() at last", x.undo(), false);
+        }
     }
 
     private static void undo() {

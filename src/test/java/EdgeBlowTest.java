@@ -68,6 +68,18 @@ public final class EdgeBlowTest {
         holds("3=2", false);
         holds("0-1<0", true);
         holds("0>0-1", true);
+        for (String fact : new String[] {"1<2", "3>2", "2=2"}) {
+            holds("not " + fact, false);
+            holds("not not " + fact, true);
+            holds(fact + " and all", true);
+            holds("all and " + fact, true);
+            holds("not all or " + fact, true);
+        }
+        for (String fact : new String[] {"2<2", "2>2", "1=2"}) {
+            holds("not " + fact, true);
+            holds("all and " + fact, false);
+            holds(fact + " or not all", false);
+        }
         Check.sentence("I: all");
         holds("all", true);
         holds("not all", false);

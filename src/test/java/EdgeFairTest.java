@@ -189,17 +189,48 @@ public final class EdgeFairTest {
         Check.due("status(4)", x.status(4), 1);
         x.night();
         Check.due("the first night", x.kept(0, 0), 1);
+        Check.sentence("4: The tape is THE FAIR: nothing is left of one before, nor of the one before that");
+        BellHammer again = new BellHammer();
+        for (int i = 0; i < 5; i++) {
+            Check.text(again, FAIR);
+            Check.due("fair() again", again.fair(), 9);
+            Check.has("again", again, 3, 2, 2, 3, 40, 1, 3, 20, 7, 3);
+            Check.due("the second rule alone", again.leans(0, 0, 0, 4, 0), 1);
+            Check.due("no rule", again.leans(0, 4, 0, 3, 0), 0);
+            if (i % 2 == 1) {
+                Check.text(again, "mark one at 1; lean when not all; trier low force 5 aim 0 tires 0 coins 0 stays 0; price 3;");
+                Check.due("fair() of another one", again.fair(), 4);
+                Check.has("of another one", again, 1, 1, 1, 1, 50, 3, 3, 20, 0, 3);
+                Check.due("its rule", again.leans(0, 3, 0, 4, 0), 0);
+            }
+        }
+        // Fewer triers than two fairs before: nobody of those strikes, pays or has blows at a mark.
+        String two = "mark m at 1; trier a force 40 aim 0 tires 0 coins 9 stays 99; trier b force 40 aim 0 tires 0 coins 9 stays 99; lean when all;";
+        String one = "mark m at 1; trier a force 40 aim 0 tires 0 coins 9 stays 99; lean when all;";
+        BellHammer fewer = new BellHammer();
+        for (String text : new String[] {two, two, one, one, "mark m at 1; lean when all;", ""}) {
+            Check.text(fewer, text);
+            fewer.fair();
+            int triers = fewer.has(1);
+            Check.due("night() of " + triers, fewer.night(), 3 * triers);
+            Check.due("has(12) of " + triers, fewer.has(12), 3 * triers);
+            Check.due("best(1) of " + triers, fewer.best(1), 3000 * triers);
+            Check.due("honest(1) of " + triers, fewer.honest(1), 3000 * triers);
+            Check.due("reach(0, 0) of " + triers, fewer.reach(0, 0), fewer.has(0) == 0 ? -1 : 3 * triers);
+            Check.due("trier(" + triers + ", 0)", fewer.trier(triers, 0), -1);
+            Check.due("mark(1)", fewer.mark(1), -1);
+        }
         Check.sentence("4: the seed stays");
-        String one = "trier a force 50 aim 5 tires 0 coins 9 stays 99; tries 2; bell 99;";
+        String drawn = "trier a force 50 aim 5 tires 0 coins 9 stays 99; tries 2; bell 99;";
         // 1103527590, 377401575, 662824084, 1147902781 from the seed 1 on: 4, 3, 2, 0 by six offs
-        BellHammer y = Check.at(one);
+        BellHammer y = Check.at(drawn);
         offs("at first", y, 4, 3);
-        Check.text(y, one);
+        Check.text(y, drawn);
         y.fair();
         offs("behind another fair", y, 2, 0);
-        BellHammer z = Check.at(one);
+        BellHammer z = Check.at(drawn);
         offs("at first", z, 4, 3);
-        Check.text(z, one + "x");
+        Check.text(z, drawn + "x");
         z.fair();
         offs("behind a fault", z, 2, 0);
     }

@@ -226,8 +226,13 @@ public final class EdgeSeenTest {
         Check.due("the greatest", x.strong(2), -1);
         Check.sentence("27: NONE when nothing is SEEN, or for others");
         for (int what : new int[] {-1, 3, 4, Integer.MIN_VALUE, Integer.MAX_VALUE}) {
+            Check.due("strong(" + what + "), no forces", x.strong(what), -1);
+        }
+        Check.see(x, 0, 10);
+        for (int what : new int[] {-1, 3, 4, Integer.MIN_VALUE, Integer.MAX_VALUE}) {
             Check.due("strong(" + what + ")", x.strong(what), -1);
         }
+        Check.due("strong(2)", x.strong(2), 21);
         BellHammer y = Check.at("trier a force 9 aim 0 tires 0 coins 0 stays 0;");
         for (int what = -1; what < 4; what++) {
             Check.due("nothing is seen, strong(" + what + ")", y.strong(what), -1);

@@ -381,6 +381,12 @@ public final class EdgeTextTest {
         Check.faultAt(4, "lean when " + times(6, "(") + "@(1");
         Check.faultAt(4, "lean when 1<" + times(6, "(") + "@(1");
         Check.faultAt(4, "lean when (1)+(1)<" + times(6, "( ") + "@(");
+        for (String ahead : new String[] {"1+", "1-", "1*", "1/", "min(1,2)+3*", "1<2-", "1>2/", "1=2+3*", "all and 1*", "all or 1+", "1<2 and 3*"}) {
+            Check.faultAt(4, "lean when " + ahead + times(6, "(") + "@(1");
+            Check.faultAt(1, "lean when " + ahead + times(6, "(") + "@+1");
+            Check.faultAt(1, "lean when " + ahead + "1234@5");
+            Check.faultAt(1, "lean when " + ahead + "@mark");
+        }
         Check.right("lean when min(1,max(1,min(1,max(1,min(1,max(1,2))))))=1;", 1);
         Check.faultAt(4, "lean when min(1,max(1,min(1,max(1,min(1,max(1,min@(");
         Check.faultAt(4, "lean when min(max(min(max(min(max(min@(");

@@ -14,6 +14,7 @@ public final class EdgeTreeTest {
         bestExactly();
         bestEdges();
         bestOfManyStates();
+        bestOfUnlikeStates();
         honest();
         honestExactly();
         bet();
@@ -89,6 +90,9 @@ public final class EdgeTreeTest {
             + "slack 10; lean when rings>0; lean when crowd=108; lean when coins<3 and lady=0 and tried=0;");
         tree(x, 0, 0, 1000, 1, 1, 1000, 99000);
         tree(x, 1, 0, 3000, 3, 3, 0, 102000);
+        Check.due("rings=0", Check.at("trier a force 9 aim 0 tires 0 coins 1 stays 0; lean when rings=0;").tree(0, 4), 1000);
+        Check.due("last=0", Check.at("trier a force 9 aim 0 tires 0 coins 1 stays 0; lean when last=0;").tree(0, 4), 1000);
+        Check.due("lady=1", Check.at("trier a force 9 aim 0 tires 0 coins 1 stays 0 lady; lean when lady=1;").tree(0, 4), 1000);
         x.rule(2, false);
         // a rings in the night, and b is leant on; in his tree he is not
         x.night();
@@ -114,6 +118,10 @@ public final class EdgeTreeTest {
         x.set(2, 9);
         // nine coins each: 6039/216 is 27958 thousandths and a third
         tree(x, 0, 517, 27958, 1, 4, 0, 517);
+        // slack at first and thrice, then 48 rings by half of the offs, 50 by a fifth: exact, and no thousandth less
+        String late = " coins 99 stays 99; tries 4; comes 1 0 0; near 0; slack 50; lean when tried<3;";
+        tree(Check.at("trier a force 60 aim 5 tires 0" + late + "bell 48;"), 0, 500, 4000, 4, 4, 1000, 500);
+        tree(Check.at("trier a force 50 aim 4 tires 0" + late), 0, 200, 4000, 4, 4, 1000, 200);
         // 1 less (2/3) to the 4 is 65/81; 1 + 2/3 + 4/9 + 8/27 is 65/27
         BellHammer y = Check.at("trier a force 50 aim 2 tires 0 coins 99 stays 99; tries 4; near 0; comes 1 0 0;");
         tree(y, 0, 802, 2407, 1, 4, 0, 802);
@@ -212,6 +220,21 @@ public final class EdgeTreeTest {
         // leant on at all of the first three blows he has four
         Check.due("three rules of three", all.best(0), 7);
         Check.due("three rules of three", all.best(1), 4000);
+        Check.sentence("III: BEST, from the crowd as told, no RINGS, his coins as told");
+        // leant on at first he strikes twice, at the second one too, thrice
+        Check.due("at first", Check.at(ONE + "crowd 7; lean when rings=0 and last=0 and lady=0 and coins=9 and crowd=7;").best(1), 2000);
+        Check.due("a coin less", Check.at(ONE + "lean when tried=0 or coins=8;").best(1), 3000);
+        Check.due("a coin less, dearer", Check.at(ONE + "price 2; lean when tried=0 or coins=7;").best(1), 6000);
+        Check.due("how high the last one was", Check.at(ONE + "lean when last=0 or last=25;").best(1), 3000);
+        Check.due("a lady", Check.at("trier a force 50 aim 0 tires 0 coins 9 stays 50 lady; slack 50; lean when lady=1;").best(0), 1);
+        // 62 rings, 55 does not: tight 7/4; behind a blow that was near (or a miss) one comes (or three), and he is leant on once
+        String people = "trier a force 62 aim 1 tires 0 coins 9 stays 50; bell 60; slack 10; comes 9 1 3; lean when crowd=";
+        Check.due("one came, near", Check.at(people + "1; near 5;").best(1), 2000);
+        Check.due("one came, near", Check.at(people + "1; near 5;").best(0), 1);
+        Check.due("none came, near", Check.at(people + "3; near 5;").best(1), 1750);
+        Check.due("three came, a miss", Check.at(people + "3; near 4;").best(1), 2000);
+        Check.due("one came, a miss", Check.at(people + "1; near 4;").best(0), 0);
+        Check.sentence("16: LEAVES of all together, in thousandths (1), at another price");
         all.set(2, 9);
         Check.due("coins for one blow", all.best(0), 0);
         Check.due("coins for one blow", all.best(1), 9000);
@@ -260,6 +283,23 @@ public final class EdgeTreeTest {
         }
     }
 
+    /**
+     * A bell of 55, blows of 60, 54, 48, 42; the first one is slack, near by off 0 alone (48). The second one is slack behind 43 (off 1),
+     * and 21 then by its off 5; the third one is slack behind 21, and 19 by its off 5: there alone he does not stay.
+     */
+    private static void bestOfUnlikeStates() {
+        Check.sentence("III: BEST by his TREE: the last blow by off 5, slack, is not that by off 0, tight, behind one more that was near");
+        BellHammer x = Check.at("trier a force 60 aim 5 tires 6 coins 99 stays 34; bell 55; slack 20; near 7; tries 4;"
+            + "lean when tried=0 or tried=1 and last=43 or tried=2 and last=21;");
+        // 4 blows, but for one of 216 ways
+        Check.due("tree(0, 1)", x.tree(0, 1), 3995);
+        Check.due("best(1)", x.best(1), 3995);
+        Check.due("best(0)", x.best(0), 1);
+        x.rule(0, false);
+        // tight: the first one rings by a sixth, none behind it
+        Check.due("tree(0, 1), tight", x.tree(0, 1), 3500);
+    }
+
     private static void honest() {
         Check.sentence("III: HONEST: a BELL (1 .. 99), no RULE in force, by which they are most; of like ones the lowest");
         BellHammer nobody = new BellHammer();
@@ -275,6 +315,8 @@ public final class EdgeTreeTest {
         BellHammer w = Check.at("trier a force 40 aim 0 tires 0 coins 9 stays 5; bell 9; lean when all; slack 90;");
         Check.due("41 to 45 alike", w.honest(0), 41);
         Check.due("41 to 45 alike", w.honest(1), 3000);
+        Check.due("best(0) between", w.best(0), 1);
+        Check.due("41 to 45 alike, behind best()", w.honest(0), 41);
         // 40, 35, 30: at 41 to 45 he stays behind the second one and not behind the third; above and below it is less
         BellHammer v = Check.at("trier a force 40 aim 0 tires 5 coins 9 stays 10; tries 4;");
         Check.due("three blows", v.honest(0), 41);

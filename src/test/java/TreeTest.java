@@ -179,10 +179,10 @@ public final class TreeTest {
         for (int i = 0; i < 6; i++) {
             text.append("lean when last*").append(i).append(">crowd+tried*7;");
         }
-        BellHammer x = Check.at(text.toString());
         long most = -1;
         int bits = -1;
         for (int set = 0; set < 64; set++) {
+            BellHammer x = Check.at(text.toString());
             for (int r = 0; r < 6; r++) {
                 x.rule(r, (set >> r & 1) == 1);
             }
@@ -195,6 +195,7 @@ public final class TreeTest {
                 bits = set;
             }
         }
+        BellHammer x = Check.at(text.toString());
         Check.due("best(0) of many", x.best(0), bits);
         Check.due("best(1) of many", x.best(1) - most >= 0 && x.best(1) - most < 8, true);
     }
