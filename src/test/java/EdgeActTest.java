@@ -7,6 +7,7 @@ public final class EdgeActTest {
         nightBegins();
         nightByNumbers();
         people();
+        callsAtMost();
         draws();
         drawsOfAll();
         wrapAround();
@@ -88,6 +89,39 @@ public final class EdgeActTest {
         x.night();
         // b is tight now, near: 104; c a miss: 106; d is leant on by the last rule
         blows("by people, the second night", x, 3, 4, 0, 0, 0, 1);
+        Check.sentence("II: the crowd (999 at most): 99 and 31 blows of 9 are 378 ahead of the last one, and it can't be more");
+        StringBuilder text = new StringBuilder("bell 99; tries 4; crowd 99; comes 9 9 9; slack 90; lean when crowd=378; lean when crowd>378;");
+        for (char c = 'a'; c <= 'h'; c++) {
+            text.append("trier t").append(c).append(" force 50 aim 0 tires 0 coins 4 stays 99;");
+        }
+        BellHammer y = Check.at(text.toString());
+        Check.due("takings", y.night(), 32);
+        for (int k = 0; k < 32; k++) {
+            Check.due("kept(" + k + ", 3)", y.kept(k, 3), k == 31 ? 1 : 0);
+        }
+        y.rule(0, false);
+        y.night();
+        Check.due("not more", y.kept(59, 3), 0);
+        Check.due("in one turn", y.tree(0, 5), 135000);
+    }
+
+    private static void callsAtMost() {
+        Check.sentence("An object is used for at most 512 calls after it has been made");
+        StringBuilder text = new StringBuilder("bell 99; tries 4; price 9;");
+        for (char c = 'a'; c <= 'h'; c++) {
+            text.append("trier t").append(c).append(" force 50 aim 5 tires 0 coins 99 stays 99;");
+        }
+        BellHammer x = Check.at(text.toString());
+        int calls = (text.length() + 19) / 20 + 2;
+        int nights = 0;
+        for (; calls < 508; calls++) {
+            Check.due("night()", x.night(), 288);
+            nights++;
+        }
+        Check.due("call 509, has(11)", x.has(11), 288 * nights);
+        Check.due("call 510, the oldest blow", x.kept(0, 0), nights - 1);
+        Check.due("call 511, undo()", x.undo(), true);
+        Check.due("call 512, the latest blow", x.kept(59, 0), nights - 1);
     }
 
     private static void draws() {

@@ -284,6 +284,8 @@ public final class EdgeSeenTest {
         BellHammer x = Check.at("trier a force 60 aim 0 tires 20 coins 0 stays 0; trier b force 10 aim 5 tires 0 coins 0 stays 0; bell 99; slack 20;");
         // 60, 54, 48 and 48, 43
         Check.due("the third is the first one slack", x.clear(0), 1);
+        // the second one's 48, tight, is no first one
+        Check.due("that he tires counts for nothing", Check.at("trier a force 60 aim 0 tires 12 coins 0 stays 0; bell 99; slack 20;").clear(0), 1);
         x.set(1, 1);
         // slack 59, 53, 47, 41, 35, 29, 23, 17, 11, 5; tight 60, 54, 48, 42, 36, 30, 24, 18, 12, 6
         Check.due("none is", x.clear(0), 9);
