@@ -683,7 +683,6 @@ public final class BellHammer {
         static final int NUMBER = 2;
         static final int SIGN = 3;
         static final int STUCK = 4;
-        private static final int BLANK = 5;
         static final int MOST_DIGITS = 4;
 
         private final int[] own = new int[Words.COUNT];
@@ -719,7 +718,7 @@ public final class BellHammer {
         void step() {
             int behind = at;
             boolean isBehindOne = kind == WORD || kind == NUMBER;
-            while (at < length && kindOf(text[at]) == BLANK) {
+            while (at < length && (text[at] == 10 || text[at] == 32)) {
                 at++;
             }
             start = at;
@@ -729,34 +728,41 @@ public final class BellHammer {
             if (kind == SIGN) {
                 value = text[at];
                 at++;
-            } else if (kind != END) {
-                readWhole();
-                if (isBehindOne && start == behind) {
-                    // Words and numbers side by side need a blank: this one fits nowhere.
-                    kind = STUCK;
-                }
+            } else if (kind == WORD) {
+                readWord();
+            } else if (kind == NUMBER) {
+                readNumber();
+            }
+            boolean isOne = kind == WORD || kind == NUMBER;
+            if (isOne && isBehindOne && start == behind) {
+                // Words and numbers side by side need a blank: this one fits nowhere.
+                kind = STUCK;
             }
         }
 
-        private void readWhole() {
-            for (; at < length && kindOf(text[at]) == kind; at++) {
-                if (kind == WORD && size < NAME_LETTERS) {
+        private void readWord() {
+            for (; at < length && text[at] >= 'a' && text[at] <= 'z'; at++) {
+                if (size < NAME_LETTERS) {
                     value = value * 27 + text[at] - 'a' + 1;
-                }
-                if (kind == NUMBER && size < MOST_DIGITS) {
-                    value = value * 10 + text[at] - '0';
                 }
                 size++;
             }
-            for (int i = size; i < NAME_LETTERS && kind == WORD; i++) {
+            for (int i = size; i < NAME_LETTERS; i++) {
                 value *= 27;
             }
         }
 
-        private static int kindOf(int b) {
-            if (b == 10 || b == 32) {
-                return BLANK;
+        private void readNumber() {
+            for (; at < length && text[at] >= '0' && text[at] <= '9'; at++) {
+                if (size < MOST_DIGITS) {
+                    value = value * 10 + text[at] - '0';
+                }
+                size++;
             }
+        }
+
+        /** What begins with this byte, which is no blank. */
+        private static int kindOf(int b) {
             if (b >= 'a' && b <= 'z') {
                 return WORD;
             }
@@ -889,7 +895,8 @@ public final class BellHammer {
                 return readTrier();
             }
             if (reader.isWord(Words.LEAN)) {
-                return readLean();
+                // Read from here, not from a method of its own: calls go eight deep at most.
+                return beginRule() && readTest(0) && endRule();
             }
             if (reader.isWord(Words.COMES)) {
                 reader.step();
@@ -964,16 +971,19 @@ public final class BellHammer {
             return true;
         }
 
-        private boolean readLean() {
-            int rule = draft.rules;
-            if (rule >= MOST_RULES) {
+        private boolean beginRule() {
+            if (draft.rules >= MOST_RULES) {
                 return tell(TOO_MANY, reader.start);
             }
             reader.step();
-            if (!passWord(Words.WHEN) || !readTest(0)) {
+            return passWord(Words.WHEN);
+        }
+
+        private boolean endRule() {
+            if (draft.rules >= MOST_RULES) {
                 return false;
             }
-            draft.ruleEnd[rule] = draft.codeSize;
+            draft.ruleEnd[draft.rules] = draft.codeSize;
             draft.rules++;
             return true;
         }
@@ -1022,7 +1032,15 @@ public final class BellHammer {
                 draft.emit(1);
                 return true;
             }
-            return readComparison(open);
+            if (!readSum(open)) {
+                return false;
+            }
+            int op = passComparer();
+            if (op == NONE || !readSum(open)) {
+                return false;
+            }
+            draft.emit(op);
+            return true;
         }
 
         /** Goes past a ( or [ or not that stands there, unless too many are open. */
@@ -1034,20 +1052,15 @@ public final class BellHammer {
             return true;
         }
 
-        private boolean readComparison(int open) {
-            if (!readSum(open)) {
-                return false;
-            }
+        /** The one of < > = that stands there; NONE with a fault. */
+        private int passComparer() {
             int op = reader.isSign('<') ? Op.LESS : reader.isSign('>') ? Op.MORE : Op.SAME;
             if (op == Op.SAME && !reader.isSign('=')) {
-                return tellWrong();
+                tellWrong();
+                return NONE;
             }
             reader.step();
-            if (!readSum(open)) {
-                return false;
-            }
-            draft.emit(op);
-            return true;
+            return op;
         }
 
         private boolean readSum(int open) {
