@@ -271,6 +271,11 @@ public final class EdgeTextTest {
         Check.faultAt(1, "lean when 1<2@or all;");
         Check.faultAt(1, "lean when not@1<2;");
         Check.faultAt(1, "lean when crowd@1<2;");
+        // 59, 60 and 43 are the bytes of ; < + and must not be taken for them.
+        Check.faultAt(1, "lean when all@59");
+        Check.faultAt(1, ANN + " lady@59");
+        Check.faultAt(1, "lean when crowd@60 1;");
+        Check.faultAt(1, "lean when crowd@43 1<2;");
         Check.faultAt(1, ANN + "@lady;");
         Check.faultAt(1, "@markx at 5;");
         Check.faultAt(1, "bell 5;@bellx 5;");
